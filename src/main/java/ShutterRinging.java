@@ -557,7 +557,7 @@ public final class ShutterRinging {
         int most;
         int sum;
 
-        /** The queue keeps the rows of one distance in the order of their first rules: so the smallest one comes first. */
+        /** Rows of one distance queue in the order of their first rules, so the smallest first rule arrives first. */
         void explore(int[][] rules, int ruleCount) {
             begin();
             for (int head = 0; head < ROWS && head < reached; head++) {
