@@ -130,7 +130,9 @@ final class Model {
     boolean swaps(int a, int b) {
         between(a, rules.size());
         between(b, rules.size());
-        return moved(moved(ROUNDS, rules.get(a)), rules.get(b)).equals(moved(moved(ROUNDS, rules.get(b)), rules.get(a)));
+        int[] one = rules.get(a);
+        int[] other = rules.get(b);
+        return moved(moved(ROUNDS, one), other).equals(moved(moved(ROUNDS, other), one));
     }
 
     int ring(int rule) {

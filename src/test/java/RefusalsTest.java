@@ -210,7 +210,7 @@ public final class RefusalsTest {
         }
     }
 
-    /** Eight rules and a wrong place; a full peal and a wrong rule. The loops above tell the same of the full object. */
+    /** Eight rules and a wrong place; a full peal and a wrong rule. The loops above tell it of the full object, too. */
     private void namedFirst() {
         refused("a ninth rule with 6", Check.ARGUMENT, x -> x.rule(0, 1, 2, 3, 4, 6));
         refused("a ninth rule with 0 twice", Check.ARGUMENT, x -> x.rule(0, 1, 2, 3, 4, 0));
